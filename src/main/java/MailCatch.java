@@ -8,6 +8,7 @@ public final class MailCatch {
     private static final int JOINTS = 0, ARMS = 1, MARKS = 2, TOWNS = 3, SIGNALS = 4, BRIDGE = 5, SLIP = 6;
     private static final int PACE = 7, OUT = 8, IN = 9, SIGNAL_COST = 10, TORN_COST = 11, HANDS = 12, RULES = 13;
     private static final int[] AT_FIRST = {6, 0, 0, 0, 0, 0, 1, 5, 2, 4, 1, 5, 3};
+    // What each may be told or set to; of ARMS, MARKS, TOWNS the most is how many lines there may be.
     private static final int[] LEAST = {2, 0, 0, 0, 0, 1, 0, 1, 1, 2, 0, 0, 1};
     private static final int[] MOST = {10, 3, 3, 5, 1023, 10, 10, 9, 10, 11, 9, 9, 9};
 

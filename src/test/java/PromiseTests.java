@@ -562,6 +562,10 @@ public final class PromiseTests {
     MailCatch z = Check.told("joints 10;slip 0;bridge 1;signal 10;arm true 5 9;pace 1;");
     Check.due("best, behind the bridge", z.best(0), 206);
     part("best, behind the bridge", z.best(1), z.best(2), 9, 1);
+    MailCatch v = Check.told("joints 10;slip 0;arm true 10 9;signal 9;");
+    Check.due("best, out by the last COUNT", v.best(0), 1011);
+    Check.tell(v, "joints 10;slip 0;arm true 10 9;arm true 9 9;signal 8;");
+    Check.due("best, in by the last COUNT", v.best(0), 911);
     // Nothing but costs, and none that keeps the net in: the cheapest, at the last JOINT.
     MailCatch w = Check.told("joints 10;slip 0;cost 3 0;signal 1;signal 2;signal 3;signal 4;signal 5;"
         + "signal 6;signal 7;signal 8;signal 9;signal 10;");
