@@ -2,14 +2,19 @@ import java.util.Random;
 
 /** Runs of calls drawn by fixed seeds, each answer against the Model's. */
 public final class ModelTests {
-  private static final int RUNS = 1500;
-  private static final int CALLS = 220;
+  private static final int RUNS = 6000;
+  private static final int CALLS = 512;
+  /** What a look at all takes, and what one step may take at most (a text, its bytes and what it answers). */
+  private static final int LOOK = 160;
+  private static final int STEP = 172;
+  private static final int SMALL_STEP = 50;
 
   private final Random random;
   private final MailCatch x = new MailCatch();
   private final Model m = new Model();
   private final StringBuilder told = new StringBuilder();
   private final int run;
+  private int calls = 0;
 
   private ModelTests(int run) {
     this.run = run;
@@ -23,18 +28,21 @@ public final class ModelTests {
     Check.finish();
   }
 
+  /** Up to the 512th call: what later calls answer is free. */
   private void go() {
-    for (int call = 0; call < CALLS && Check.wrongOnes() == 0; call++) {
-      if (call % 40 == 0 || pick(30) == 0) {
+    while (calls + SMALL_STEP + LOOK <= CALLS && Check.wrongOnes() == 0) {
+      boolean isTime = calls + STEP + LOOK <= CALLS;
+      if (isTime && (calls == 0 || pick(30) == 0)) {
         tellText();
       } else {
-        callOne(call);
+        callOne();
       }
-      if (pick(8) == 0) {
+      if (calls + 2 * LOOK <= CALLS && pick(20) == 0) {
         lookAll();
       }
     }
     lookAll();
+    Check.holds("run " + run + " is of at most 512 calls", calls <= CALLS);
     if (Check.wrongOnes() != 0) {
       System.out.println(told);
     }
@@ -60,6 +68,7 @@ public final class ModelTests {
   }
 
   private void due(String call, long got, long want) {
+    calls++;
     told.append(call).append(" = ").append(got).append('\n');
     Check.due("run " + run + ": " + call, got, want);
   }
@@ -90,6 +99,7 @@ public final class ModelTests {
     if (text.length() > 160 && pick(2) == 0) {
       text.setLength(Math.max(1, text.lastIndexOf(";", 159) + 1));
     }
+    text.setLength(Math.min(text.length(), 170));
     feedText(text.toString());
     due("text", x.text(), m.text());
     due("fault", x.fault(), m.fault());
@@ -144,7 +154,7 @@ public final class ModelTests {
 
   // ---- calls
 
-  private void callOne(int call) {
+  private void callOne() {
     int joints = m.now.joints;
     int arms = Math.max(1, m.now.arms.size());
     int marks = m.now.marks.size();

@@ -17,13 +17,25 @@ public final class SafetyTests {
     "joints 2;town 1 1;town 2 2;town 3 3;town 4 4;town 5 5;slip 10;pace 9;",
   };
 
+  private static final int CALLS = 512;
+
   private static long calls = 0;
+
+  private final String text;
+  private MailCatch x;
+  private Model y;
+  private int called;
+
+  private SafetyTests(String text) {
+    this.text = text;
+    remake();
+  }
 
   public static void main(String[] args) throws Exception {
     for (String text : TEXTS) {
       for (Method m : MailCatch.class.getDeclaredMethods()) {
         if (java.lang.reflect.Modifier.isPublic(m.getModifiers())) {
-          all(text, m);
+          new SafetyTests(text).all(m);
         }
       }
     }
@@ -31,17 +43,15 @@ public final class SafetyTests {
     Check.finish();
   }
 
-  private static void all(String text, Method m) throws Exception {
+  private void all(Method m) throws Exception {
     Method same = Model.class.getDeclaredMethod(m.getName(), m.getParameterTypes());
     same.setAccessible(true);
-    MailCatch x = new MailCatch();
-    Model y = new Model();
-    prepare(x, y, text);
-    List<Object> args = new ArrayList<>();
-    go(x, y, m, same, args);
+    go(m, same, new ArrayList<>());
   }
 
-  private static void prepare(MailCatch x, Model y, String text) {
+  private void remake() {
+    x = new MailCatch();
+    y = new Model();
     for (char c : text.toCharArray()) {
       x.feed(c);
       y.feed(c);
@@ -57,24 +67,29 @@ public final class SafetyTests {
     y.see(1, 1);
     x.keep(1);
     y.keep(1);
+    called = text.length() + 6;
   }
 
-  private static void go(MailCatch x, Model y, Method m, Method same, List<Object> args) throws Exception {
+  private void go(Method m, Method same, List<Object> args) throws Exception {
     if (args.size() < m.getParameterCount()) {
       int left = m.getParameterCount() - args.size();
       if (m.getParameterTypes()[args.size()] == boolean.class) {
         for (boolean is : new boolean[] {true, false, true}) {
-          more(x, y, m, same, args, is);
+          more(m, same, args, is);
         }
         return;
       }
       int many = m.getParameterCount() >= 3 ? (left <= 1 ? MANY.length : 13) : MANY.length;
       for (int i = 0; i < many; i++) {
-        more(x, y, m, same, args, MANY[i]);
+        more(m, same, args, MANY[i]);
       }
       return;
     }
+    if (called == CALLS) {
+      remake();
+    }
     calls++;
+    called++;
     try {
       long got = ((Number) m.invoke(x, args.toArray())).longValue();
       long want = ((Number) same.invoke(y, args.toArray())).longValue();
@@ -84,9 +99,9 @@ public final class SafetyTests {
     }
   }
 
-  private static void more(MailCatch x, Model y, Method m, Method same, List<Object> args, Object one) throws Exception {
+  private void more(Method m, Method same, List<Object> args, Object one) throws Exception {
     args.add(one);
-    go(x, y, m, same, args);
+    go(m, same, args);
     args.remove(args.size() - 1);
   }
 }
