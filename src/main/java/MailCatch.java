@@ -23,8 +23,8 @@ public final class MailCatch {
     private final Told firstImage = new Told();
     private final Told secondImage = new Told();
     private int images;
-    private final Tape tape = new Tape();
-    private final Reader reader = new Reader(tape);
+    private final Reader reader = new Reader();
+    private final Tape tape = reader.from;
     private int textFault;
     private final Passage passage = new Passage();
     private final Odds odds = new Odds();
@@ -873,15 +873,11 @@ public final class MailCatch {
         private static final int ONCE =
             1 << JOINTS | 1 << BRIDGE | 1 << SLIP | 1 << PACE | 1 << OUT | 1 << SIGNAL_COST | 1 << HANDS;
 
-        private final Tape from;
+        private final Tape from = new Tape();
         private final Told draft = new Told();
         private int toldLines;
         private int fault;
         private int faultPlace;
-
-        private Reader(Tape tape) {
-            from = tape;
-        }
 
         private void start() {
             from.next = 0;

@@ -33,13 +33,13 @@ public final class LanguageTests {
       "String", "StringBuilder", "ArrayList");
 
   public static void main(String[] args) throws Exception {
-    face();
-    inside();
+    inside(face());
     source(Files.readString(Path.of("src/main/java/MailCatch.java"), StandardCharsets.UTF_8));
     Check.finish();
   }
 
-  private static void face() {
+  /** The names of the public methods. */
+  private static Set<String> face() {
     Check.holds("the class is public and final", Modifier.isPublic(MailCatch.class.getModifiers())
         && Modifier.isFinal(MailCatch.class.getModifiers()));
     Check.due("constructors", MailCatch.class.getDeclaredConstructors().length, 1);
@@ -65,14 +65,19 @@ public final class LanguageTests {
         Check.holds(m + " has no public one's name", !names.contains(m.getName()));
       }
     }
+    return names;
   }
 
-  private static void inside() {
+  private static void inside(Set<String> namesOfFace) {
     List<Class<?>> all = new ArrayList<>(Arrays.asList(MailCatch.class.getDeclaredClasses()));
     Check.holds("some twelve classes: " + all.size(), all.size() <= 12);
     for (Class<?> c : all) {
       boolean isOpen = Modifier.isPublic(c.getModifiers()) || Modifier.isProtected(c.getModifiers());
       Check.holds(c + " is private or package-visible, and static", !isOpen && Modifier.isStatic(c.getModifiers()));
+      for (Method m : c.getDeclaredMethods()) {
+        boolean isPrivate = Modifier.isPrivate(m.getModifiers());
+        Check.holds(m + " has no public one's name", !isPrivate || !namesOfFace.contains(m.getName()));
+      }
     }
     all.add(MailCatch.class);
     for (Class<?> c : all) {
@@ -123,6 +128,9 @@ public final class LanguageTests {
     while (made.find()) {
       Check.holds("new " + made.group(1), own.contains(made.group(1)));
     }
+    Check.holds("no this as an argument", !Pattern.compile("[(,]\\s*this\\s*[,)]").matcher(code).find());
+    Check.holds("no field is handed to what another is made of",
+        !Pattern.compile("(?m)^ {4,8}private (final )?\\w+ \\w+ = new \\w+\\([a-z]").matcher(code).find());
     lengths(code.split("\n"));
   }
 

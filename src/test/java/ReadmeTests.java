@@ -1,4 +1,5 @@
 import java.io.IOException;
+import java.lang.ProcessBuilder.Redirect;
 import java.lang.reflect.Method;
 import java.lang.reflect.Modifier;
 import java.nio.charset.StandardCharsets;
@@ -6,9 +7,9 @@ import java.nio.file.Files;
 import java.nio.file.Path;
 import java.util.ArrayList;
 import java.util.Comparator;
-import java.util.HashMap;
 import java.util.List;
 import java.util.Map;
+import java.util.TreeMap;
 import java.util.TreeSet;
 import java.util.regex.Matcher;
 import java.util.regex.Pattern;
@@ -25,7 +26,6 @@ public final class ReadmeTests {
   private static final List<String> RULES = List.of("joints", "arm", "mark", "town", "signal", "bridge", "slip", "pace",
       "net", "(IN)", "cost", "(of a TORN net)", "hands");
   private static final Pattern ANSWERED = Pattern.compile("^(\\S.*\\));\\s*// (-?\\d+)(: .*)?$");
-  private static final Pattern CALLED = Pattern.compile("\\bx\\.(\\w+)\\(");
 
   /** What stands between two fences, from the line behind the first on (lines are counted from 1). */
   private record Block(String kind, int line, List<String> text) {
@@ -118,40 +118,60 @@ public final class ReadmeTests {
   // ---- calls with their answers
 
   private void calls() throws Exception {
-    Map<Integer, Long> due = new HashMap<>();
-    TreeSet<String> called = new TreeSet<>();
     StringBuilder members = new StringBuilder();
     StringBuilder uses = new StringBuilder();
+    TreeMap<Integer, Long> due = new TreeMap<>();
     for (Block block : blocks) {
       if (!block.kind().equals("java") || block.has("public static void main")) {
         continue;
       }
       if (block.text().get(0).startsWith("static ")) {
         members.append(String.join("\n", block.text())).append('\n');
-        continue;
+      } else {
+        uses.append("{\n").append(asked(block, due)).append("}\n");
       }
-      uses.append("{\n");
-      for (int i = 0; i < block.text().size(); i++) {
-        String line = block.text().get(i);
-        Matcher answered = ANSWERED.matcher(line);
-        boolean isAnswered = answered.matches();
-        Check.holds("README.md:" + (block.line() + i) + " has a call and its answer: " + line,
-            isAnswered || line.equals("MailCatch x = new MailCatch();"));
-        if (isAnswered) {
-          due.put(block.line() + i, Long.parseLong(answered.group(2)));
-          line = "said(" + (block.line() + i) + ", " + answered.group(1) + ");";
-          Matcher call = CALLED.matcher(answered.group(1));
-          while (call.find()) {
-            called.add(call.group(1));
-          }
-        }
-        uses.append(line).append('\n');
-      }
-      uses.append("}\n");
     }
     answers(due, "public class Calls {\n" + members + "static void said(int line, long answer) {\n"
         + "System.out.println(line + \" \" + answer);\n}\npublic static void main(String[] args) {\n" + uses + "}\n}\n");
+    fractions(due);
+    TreeSet<String> called = new TreeSet<>();
+    Matcher call = Pattern.compile("\\bx\\.(\\w+)\\(").matcher(uses);
+    while (call.find()) {
+      called.add(call.group(1));
+    }
     Check.holds("README.md shows each call; it has " + called, called.equals(callsOfFace()));
+  }
+
+  /** The block's calls so that each says its line and its answer; what is due there is noted. */
+  private static String asked(Block block, Map<Integer, Long> due) {
+    StringBuilder asked = new StringBuilder();
+    for (int i = 0; i < block.text().size(); i++) {
+      String line = block.text().get(i);
+      Matcher answered = ANSWERED.matcher(line);
+      if (answered.matches()) {
+        due.put(block.line() + i, Long.parseLong(answered.group(2)));
+        asked.append("said(").append(block.line() + i).append(", ").append(answered.group(1)).append(");\n");
+      } else {
+        Check.holds("README.md:" + (block.line() + i) + " has a call and its answer: " + line,
+            line.equals("MailCatch x = new MailCatch();"));
+        asked.append(line).append('\n');
+      }
+    }
+    return asked.toString();
+  }
+
+  /** Where a fraction is told, its numerator is that line's answer, its denominator the next one's. */
+  private void fractions(Map<Integer, Long> due) {
+    int told = 0;
+    for (int line : due.keySet()) {
+      Matcher fraction = Pattern.compile(": .*?(-?\\d+)/(\\d+)$").matcher(lines.get(line - 1));
+      if (fraction.find()) {
+        told++;
+        Check.due("README.md:" + line + " numerator", Long.parseLong(fraction.group(1)), due.get(line));
+        Check.due("README.md:" + line + " denominator", Long.parseLong(fraction.group(2)), due.getOrDefault(line + 1, 0L));
+      }
+    }
+    Check.holds("README.md tells fractions", told > 0);
   }
 
   private void answers(Map<Integer, Long> due, String program) throws Exception {
@@ -203,6 +223,10 @@ public final class ReadmeTests {
       MailCatch x = new MailCatch();
       Check.due("README.md: '" + row[0] + "' text()", Check.tell(x, row[0]), Integer.parseInt(row[1]));
       Check.due("README.md: '" + row[0] + "' fault()", x.fault(), Integer.parseInt(row[2]));
+      if (row[3].startsWith("place ")) {
+        int place = Integer.parseInt(row[3].split("[ ,:]")[1]);
+        Check.due("README.md: '" + row[0] + "' place", place, -10 - Integer.parseInt(row[1]));
+      }
       faults.add(x.fault());
     }
     Check.holds("README.md shows each FAULT: " + faults, faults.size() == 7);
@@ -236,7 +260,8 @@ public final class ReadmeTests {
     int rule = RULES.indexOf(line.split(" ")[0]);
     String[] numbers = told.equals("none") ? new String[] {"0"} : told.split(", ");
     for (int n = 0; n < numbers.length; n++) {
-      Check.due("at first: rule " + (rule + n) + " of " + line, new MailCatch().rule(rule + n), Integer.parseInt(numbers[n]));
+      int first = new MailCatch().rule(rule + n);
+      Check.due("at first: rule " + (rule + n) + " of " + line, first, Integer.parseInt(numbers[n]));
     }
   }
 
@@ -297,10 +322,11 @@ public final class ReadmeTests {
   // ---- what the machine is asked for
 
   private List<String> run(String... command) throws Exception {
-    Process process = new ProcessBuilder(command).directory(place.toFile()).redirectErrorStream(true).start();
+    // What a machine says of itself on its other stream ("Picked up ..") is no answer.
+    Process process = new ProcessBuilder(command).directory(place.toFile()).redirectError(Redirect.INHERIT).start();
     process.getOutputStream().close();
     String printed = new String(process.getInputStream().readAllBytes(), StandardCharsets.UTF_8);
-    Check.holds(String.join(" ", command) + " ends well: " + printed, process.waitFor() == 0);
+    Check.holds(String.join(" ", command) + " ends well", process.waitFor() == 0);
     return printed.isEmpty() ? List.of() : printed.lines().toList();
   }
 
